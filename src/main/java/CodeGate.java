@@ -263,7 +263,7 @@ public final class CodeGate {
             int i = from;
             while (i < to && row[i] != ')') {
                 int end = typeEnd(i, to);
-                if (end < 0) {
+                if (end <= i) {
                     return 0;
                 }
                 slots += slotsBetween(i, end);
@@ -290,7 +290,18 @@ public final class CodeGate {
             if (i >= to || i - from > MOST_BRACKETS) {
                 return -1;
             }
-            switch (row[i]) {
+            if (row[i] != 'L') {
+                return isSimple(row[i]) ? i + 1 : -1;
+            }
+            int name = i + 1;
+            while (i < to && row[i] != ';') {
+                i++;
+            }
+            return i < to && nameFacts(name, i) != 0 ? i + 1 : -1;
+        }
+
+        private static boolean isSimple(int letter) {
+            switch (letter) {
                 case 'B':
                 case 'C':
                 case 'D':
@@ -299,20 +310,10 @@ public final class CodeGate {
                 case 'J':
                 case 'S':
                 case 'Z':
-                    return i + 1;
-                case 'L':
-                    return objectEnd(i + 1, to);
+                    return true;
                 default:
-                    return -1;
+                    return false;
             }
-        }
-
-        private int objectEnd(int from, int to) {
-            int i = from;
-            while (i < to && row[i] != ';') {
-                i++;
-            }
-            return i < to && nameFacts(from, i) != 0 ? i + 1 : -1;
         }
 
         /** The last byte of a type tells it, as that of an object is a semicolon. */
@@ -342,6 +343,8 @@ public final class CodeGate {
         private final int[] facts = new int[MOST];
         // Of a TEXT, METHOD and OUTER the SLOTS of the arguments; of a CLASS how many [ it has.
         private final int[] measures = new int[MOST];
+        // Of a TEXT a sum over its bytes, so that most that differ need not be gone through.
+        private final int[] sums = new int[MOST];
 
         Pool(Walk walk) {
             this.walk = walk;
@@ -401,13 +404,14 @@ public final class CodeGate {
         private void readText(int k) {
             int sizePlace = walk.at;
             int size = walk.next(2);
-            int from = walk.at;
+            int sum = 0;
             int left = 0;
             int low = 0;
             int high = 0;
             for (int i = 0; i < size && walk.sound(); i++) {
                 int where = walk.at;
                 int b = walk.next(1);
+                sum = 31 * sum + b;
                 if (left == 0) {
                     left = followers(b);
                     low = b == 0xE0 ? 0xA0 : 0x80;
@@ -420,9 +424,7 @@ public final class CodeGate {
                 }
             }
             walk.need(left == 0, 5, sizePlace);
-            if (walk.sound()) {
-                noteText(k, from, walk.at);
-            }
+            sums[k] = sum;
         }
 
         /** How many bytes follow the first one of a letter; -1 if none begins with it. */
@@ -436,7 +438,18 @@ public final class CodeGate {
             return b >= 0xE0 && b <= 0xEF ? 2 : -1;
         }
 
-        private void noteText(int k, int from, int to) {
+        /** Each TEXT is looked through once here, however often it is referred to. */
+        void noteTexts() {
+            for (int k = 1; k < count && walk.sound(); k++) {
+                if (kinds[k] == TEXT) {
+                    noteText(k);
+                }
+            }
+        }
+
+        private void noteText(int k) {
+            int from = places[k] + 3;
+            int to = Math.min(from + firstOf(k), walk.length);
             int type = words.typeFacts(from, to);
             int name = words.nameFacts(from, to);
             if (spells(k, "<init>")) {
@@ -575,10 +588,14 @@ public final class CodeGate {
             return true;
         }
 
+        /** Whether two TEXTS have the same bytes. */
         boolean alike(int one, int other) {
-            int size = firstOf(one);
-            if (one == other || size != firstOf(other)) {
+            if (one == other || !within(one) || !within(other) || sums[one] != sums[other]) {
                 return one == other;
+            }
+            int size = firstOf(one);
+            if (size != firstOf(other)) {
+                return false;
             }
             for (int i = 0; i < size; i++) {
                 int b = walk.numberAt(places[one] + 3 + i, 1);
@@ -932,6 +949,7 @@ public final class CodeGate {
             walk.begin();
             readHead();
             pool.readEntries();
+            pool.noteTexts();
             pool.readLinks();
             readClass();
             int interfaces = readCount(MOST_INTERFACES);
