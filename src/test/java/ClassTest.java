@@ -89,6 +89,9 @@ public final class ClassTest {
         m.u2(m.classOf("I")).mark("second").u2(m.one(7, m.otherText("I"))).u2(0, 0, 0);
         judged("twice", m, false, 16, "second");
         m = headOnly(0x21).u2(2);
+        m.u2(m.classOf("Aa")).mark("second").u2(m.classOf("BB")).u2(0, 0, 0);
+        judged("of the same hash", m, true, 0, "second");
+        m = headOnly(0x21).u2(2);
         m.u2(m.classOf("I")).mark("second").u2(m.text("I"));
         judged("no CLASS", m, false, 8, "second");
         m = headOnly(0x21).u2(2);

@@ -310,6 +310,10 @@ public final class CodeTest {
                 breaks("the end ahead of padding", 25, pc, Arrays.copyOf(code, pad));
             }
         }
+        for (int op : new int[] {170, 171}) {
+            Maker m = start(52).attribute("c", "Code", 13).u2(0, 0).u4(1).mark("code").u1(op).u1(255, 255, 255, 255);
+            CHECK.breaks("padding behind the CODE is not looked at", m.file(), 25, m.place("code"));
+        }
         breaks("low above high", 24, 1, switchCode(170, 1, 0, 6, 5, 0, 0));
         breaks("low far above high", 24, 1, switchCode(170, 1, 0, Integer.MAX_VALUE, Integer.MIN_VALUE, 0));
         breaks("all ways", 24, 1, switchCode(170, 1, 0, Integer.MIN_VALUE, Integer.MAX_VALUE));

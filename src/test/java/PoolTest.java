@@ -17,6 +17,7 @@ public final class PoolTest {
         floats();
         members();
         order();
+        fullFile();
         CHECK.done();
     }
 
@@ -88,6 +89,13 @@ public final class PoolTest {
         m.sayCount(2);
         CHECK.breaks("a LONG as the last", m.file(), 4, 10);
         CHECK.breaks("a LONG as the last, not all there", Arrays.copyOf(m.file(), 18), 1, 18);
+        m = new Maker(52);
+        for (int i = 1; i < 299; i++) {
+            m.number(i);
+        }
+        k = m.longNumber(1);
+        m.sayCount(300);
+        CHECK.breaks("a LONG as number 299", m.file(), 4, m.place(k));
         m = new Maker(52);
         k = m.longNumber(1);
         int string = m.one(8, k + 1);
@@ -187,7 +195,8 @@ public final class PoolTest {
             m.named(name, "I");
             CHECK.passes("NAMED " + name, rest(m));
         }
-        for (String name : new String[] {"", "a.b", "a/b", "[a", "a;", "<a", "a>", "<init", "<init>a", "<clinit>>", "<Init>"}) {
+        for (String name : new String[] {"", "a.b", "a/b", "[a", "a;", "<a", "a>", "<init", "<init>a", "<clinit>>", "<Init>",
+            "()V/x", "(I/b", "()La/b;c/d", "()/"}) {
             Maker m = new Maker(52);
             int k = m.named(name, "F");
             CHECK.breaks("NAMED " + name, rest(m), 9, m.place(k) + 1);
@@ -293,5 +302,22 @@ public final class PoolTest {
         m.one(7, text);
         m.two(12, text, type);
         CHECK.passes("to later numbers", rest(m));
+    }
+
+    /** TEXTS that break off as descriptors, as the very last bytes that a FILE can have. */
+    private static void fullFile() {
+        for (String last : new String[] {"", "(", "[", "([", "L", "(L", "La", "()", "()[", "()L", "(I", "[[[[[[[[[", "<init>"}) {
+            Maker m = new Maker(52);
+            m.otherText("x".repeat(4000 - 10 - 3 - 3 - last.length()));
+            m.otherText(last);
+            CHECK.due("length", m.file().length, 4000);
+            CHECK.breaks("the last bytes " + last, m.file(), 1, 4000);
+        }
+        for (int kind : new int[] {1, 3, 5, 7, 9}) {
+            Maker m = new Maker(52);
+            m.otherText("x".repeat(4000 - 10 - 3 - 1));
+            m.raw(kind);
+            CHECK.breaks("the last byte is KIND " + kind, m.file(), 1, 4000);
+        }
     }
 }
