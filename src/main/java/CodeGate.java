@@ -322,8 +322,7 @@ public final class CodeGate {
         }
 
         private int slotsBetween(int from, int end) {
-            boolean two = end - from == 1 && (row[from] == 'J' || row[from] == 'D');
-            return two ? 2 : 1;
+            return end - from == 1 && row[from] == 'J' ? 2 : 1;
         }
     }
 

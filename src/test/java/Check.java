@@ -1,27 +1,61 @@
-/** Counts answers that are not as due; a test ends with done(). */
+/**
+ * Counts answers that are not as due; a test ends with done(). What is asked behind says(..) is due
+ * by that sentence of the document, and each sentence that is told must have been asked about.
+ */
 final class Check {
+    private String sentence = "";
+    private int askedAhead;
+    private int sentences;
     private int wrong;
     private int asked;
+
+    void says(String words) {
+        endSentence();
+        sentence = words;
+        sentences++;
+        askedAhead = asked;
+    }
+
+    private void endSentence() {
+        if (!sentence.isEmpty() && asked == askedAhead) {
+            wrong++;
+            System.out.println("nothing was asked about: " + sentence);
+        }
+    }
 
     void due(String call, long got, long want) {
         asked++;
         if (got != want) {
             wrong++;
-            System.out.println(call + " answered " + got + ", due is " + want);
+            System.out.println("[" + sentence + "] " + call + " answered " + got + ", due is " + want);
         }
     }
 
-    /** The FILE breaks this RULE at this PLACE. */
-    void breaks(String what, byte[] file, int rule, int place) {
+    /** The FILE breaks this RULE at this PLACE; it passes if the RULE is 0. */
+    void judged(String what, byte[] file, int rule, int place) {
         CodeGate gate = fed(file);
-        due(what + ": judge()", gate.judge(), 1 + place);
+        due(what + ": judge()", gate.judge(), rule == 0 ? 0 : 1 + place);
         due(what + ": rule()", gate.rule(), rule);
     }
 
+    void breaks(String what, byte[] file, int rule, int place) {
+        judged(what, file, rule, place);
+    }
+
     void passes(String what, byte[] file) {
-        CodeGate gate = fed(file);
-        due(what + ": judge()", gate.judge(), 0);
-        due(what + ": rule()", gate.rule(), 0);
+        judged(what, file, 0, 0);
+    }
+
+    /** The FILE has just these bytes; of a long one not each is asked, to keep to 512 calls. */
+    void holds(String what, CodeGate gate, byte[] file) {
+        int step = Math.max(1, file.length / 40);
+        for (int i = 0; i < file.length; i += step) {
+            due(what + ": byteAt(" + i + ")", gate.byteAt(i), file[i] & 255);
+        }
+        if (file.length > 0) {
+            due(what + ": the last byte", gate.byteAt(file.length - 1), file[file.length - 1] & 255);
+        }
+        due(what + ": behind the last byte", gate.byteAt(file.length), CodeGate.BAD);
     }
 
     /** A new object that has been fed with these bytes. */
@@ -43,7 +77,9 @@ final class Check {
     }
 
     void done() {
-        System.out.println(wrong == 0 ? asked + " answers as due" : wrong + " of " + asked + " answers not as due");
+        endSentence();
+        String told = sentences == 0 ? "" : " of " + sentences + " sentences";
+        System.out.println(wrong == 0 ? asked + " answers as due" + told : wrong + " of " + asked + " answers not as due");
         if (wrong != 0) {
             System.exit(1);
         }

@@ -1,24 +1,48 @@
+import java.util.ArrayList;
 import java.util.Arrays;
+import java.util.List;
 
-/** Promises 6 and 7 on HEAD and THE POOL: RULES 1 to 12. */
+/** THE POOL, sentence by sentence: RULES 4 to 12. */
 public final class PoolTest {
+    private static final String LETTERS = letters();
     private static final Check CHECK = new Check();
 
     public static void main(String[] args) {
-        head();
         count();
+        entriesCounted();
         kinds();
+        sizes();
+        textSizes();
         longs();
-        letters();
+        lettersOfOne();
+        lettersOfTwo();
+        lettersOfThree();
+        textEndsEarly();
+        references();
         classNames();
+        arrays();
         strings();
-        namedNames();
-        descriptors();
-        floats();
         members();
+        namedNames();
+        namedTypes();
         order();
+        plainNames();
+        fieldTypes();
+        brackets();
+        methodTypes();
+        slots();
+        floats();
+        floatsElsewhereWrong();
         fullFile();
         CHECK.done();
+    }
+
+    private static String letters() {
+        StringBuilder all = new StringBuilder();
+        for (char c = 1; c < 128; c++) {
+            all.append(c);
+        }
+        return all.toString();
     }
 
     /** The rest of a class that passes, behind the entries that a test made. */
@@ -26,120 +50,157 @@ public final class PoolTest {
         return m.open(0x21).u2(0, 0, 0).file();
     }
 
-    private static byte[] with(byte[] file, int at, int value) {
-        byte[] other = file.clone();
-        other[at] = (byte) value;
-        return other;
-    }
-
-    private static void head() {
-        byte[] file = rest(new Maker(45));
-        CHECK.passes("version 45", file);
-        for (int i = 0; i < file.length; i++) {
-            CHECK.breaks("the first " + i, Arrays.copyOf(file, i), 1, i);
-        }
-        for (int i = 0; i < 4; i++) {
-            CHECK.breaks("magic byte " + i, with(file, i, 0), 2, 0);
-        }
-        CHECK.breaks("two wrong bytes", new byte[2], 1, 2);
-        CHECK.breaks("minor 1", with(file, 5, 1), 3, 4);
-        CHECK.breaks("minor 256", with(file, 4, 1), 3, 4);
-        CHECK.breaks("version 44", with(file, 7, 44), 3, 6);
-        CHECK.passes("version 61", with(file, 7, 61));
-        CHECK.breaks("version 62", with(file, 7, 62), 3, 6);
-        CHECK.breaks("version 301", with(file, 6, 1), 3, 6);
-        CHECK.breaks("a byte behind", Arrays.copyOf(file, file.length + 1), 29, file.length);
+    /** Entries of every KIND, each in front of its number in the row; the number behind a LONG is 0. */
+    private static int[] oneOfEach(Maker m) {
+        int[] numbers = new int[13];
+        numbers[1] = m.text("t");
+        numbers[3] = m.number(1);
+        numbers[5] = m.longNumber(1);
+        numbers[0] = numbers[5] + 1;
+        numbers[7] = m.classOf("T");
+        numbers[8] = m.string("s");
+        numbers[9] = m.field("T", "f", "I");
+        numbers[10] = m.method("T", "m", "()V");
+        numbers[11] = m.outer("T", "m", "()V");
+        numbers[12] = m.named("n", "I");
+        return numbers;
     }
 
     private static void count() {
-        CHECK.breaks("n is 0", rest(new Maker(52).sayCount(0)), 4, 8);
-        CHECK.breaks("n is 301", rest(new Maker(52).sayCount(301)), 4, 8);
-        CHECK.breaks("n is 65535", rest(new Maker(52).sayCount(65535)), 4, 8);
-        Maker one = new Maker(52).sayCount(1);
-        CHECK.breaks("n is 1: the class comes at once", one.u2(0x21, 1).file(), 8, 12);
-        Maker most = new Maker(52);
-        for (int i = 0; i < 295; i++) {
-            most.number(i);
+        CHECK.says("THE POOL: u2 n, 1 .. 300 (4)");
+        for (int n : new int[] {0, 301, 302, 0x8000, 0xFFFF}) {
+            CHECK.breaks("n is " + n, rest(new Maker(52).sayCount(n)), 4, 8);
         }
-        CHECK.passes("n is 300", rest(most));
+        CHECK.breaks("n is 1: the class comes at once", new Maker(52).sayCount(1).u2(0x21, 1).file(), 8, 12);
+        CHECK.breaks("n is 1, and nothing comes", new Maker(52).file(), 1, 10);
+        for (int n : new int[] {5, 6, 299, 300, 301}) {
+            Maker m = new Maker(52);
+            for (int i = 5; i < n; i++) {
+                m.number(i);
+            }
+            CHECK.judged("n is " + n, rest(m), n <= 300 ? 0 : 4, 8);
+        }
+    }
+
+    private static void entriesCounted() {
+        CHECK.says("the entries 1 .. n - 1");
+        Maker m = new Maker(52);
+        byte[] file = rest(m);
+        int behind = m.place("flags");
+        file[9]++;
+        CHECK.breaks("one less than n - 1: FLAGS are a KIND", file, 6, behind);
+        file[9] -= 2;
+        CHECK.breaks("one more than n - 1: a CLASS is FLAGS", file, 13, behind - 3);
     }
 
     private static void kinds() {
+        CHECK.says("each u1 its KIND (PLACE of an entry) .. 4, 6, 15 .. 20: 7. Others: 6.");
         for (int kind = 0; kind < 256; kind++) {
-            Maker m = new Maker(52);
-            m.text("x");
-            int k = m.raw(kind);
-            boolean known = kind == 1 || kind == 3 || kind == 5 || kind >= 7 && kind <= 12;
-            boolean refused = kind == 4 || kind == 6 || kind >= 15 && kind <= 20;
-            if (known) {
+            for (boolean first : new boolean[] {true, false}) {
+                Maker m = new Maker(52);
+                if (!first) {
+                    m.text("x");
+                }
+                int k = m.raw(kind);
+                boolean known = kind == 1 || kind == 3 || kind == 5 || kind >= 7 && kind <= 12;
+                boolean refused = kind == 4 || kind == 6 || kind >= 15 && kind <= 20;
                 byte[] file = m.file();
-                CHECK.breaks("KIND " + kind + ", then nothing", file, 1, file.length);
-            } else {
-                CHECK.breaks("KIND " + kind, rest(m), refused ? 7 : 6, m.place(k));
+                if (known) {
+                    CHECK.breaks("KIND " + kind + ", then nothing", file, 1, file.length);
+                } else {
+                    CHECK.breaks("KIND " + kind + ", then nothing", file, refused ? 7 : 6, m.place(k));
+                    CHECK.breaks("KIND " + kind, rest(m), refused ? 7 : 6, m.place(k));
+                }
             }
         }
     }
 
-    private static void longs() {
+    private static void sizes() {
+        CHECK.says("1 TEXT: u2 how many, these bytes .. 3 INT: u4; 5 LONG: u4 u4 .. CLASS: u2; STRING: u2; .. NAMED: u2 u2.");
+        int[] sizes = {0, 2, 0, 4, 0, 8, 0, 2, 2, 4, 4, 4, 4};
+        for (int kind = 1; kind <= 12; kind++) {
+            for (int n = 0; n < sizes[kind]; n++) {
+                int[] entry = new int[1 + n];
+                entry[0] = kind;
+                Maker m = new Maker(52);
+                m.raw(entry);
+                CHECK.breaks("KIND " + kind + " with " + n, m.file(), 1, 11 + n);
+            }
+            if (sizes[kind] > 0) {
+                int[] entry = new int[1 + sizes[kind]];
+                entry[0] = kind;
+                Maker m = new Maker(52);
+                m.raw(entry);
+                m.sayCount(4);
+                int next = 11 + sizes[kind];
+                m.raw(255);
+                CHECK.breaks("behind KIND " + kind, m.file(), 6, next);
+            }
+        }
+        for (int bits : new int[] {0, -1, Integer.MIN_VALUE, Integer.MAX_VALUE}) {
+            Maker m = new Maker(52);
+            m.number(bits);
+            m.longNumber((long) bits << 32 | bits & 0xFFFFFFFFL);
+            CHECK.passes("INT and LONG of " + bits, rest(m));
+        }
+    }
+
+    private static void textSizes() {
+        CHECK.says("1 TEXT: u2 how many, these bytes, each as below (5)");
+        for (int n : new int[] {0, 1, 2, 255, 256, 3000}) {
+            Maker m = new Maker(52);
+            m.otherText("x".repeat(n));
+            CHECK.passes("a TEXT of " + n, rest(m));
+        }
         Maker m = new Maker(52);
-        int k = m.longNumber(-1);
-        CHECK.passes("a LONG", rest(m));
+        m.raw(1, 255, 255, 'a', 0);
+        CHECK.breaks("a wrong byte ahead of the FILE's end", m.file(), 5, 14);
         m = new Maker(52);
+        m.raw(1, 255, 255, 'a', 0xC2);
+        CHECK.breaks("the FILE's end ahead of the TEXT's", m.file(), 1, 15);
+        m = new Maker(52);
+        m.raw(1, 0, 3, 'a', 'b');
+        CHECK.breaks("the last byte is not there", m.file(), 1, 15);
+    }
+
+    private static void longs() {
+        CHECK.says("5 LONG: u4 u4, and the next number is no entry (4 at its PLACE, if it is n - 1)");
+        Maker m = new Maker(52);
         m.longNumber(1);
         m.sayCount(2);
-        CHECK.breaks("a LONG as the last", m.file(), 4, 10);
-        CHECK.breaks("a LONG as the last, not all there", Arrays.copyOf(m.file(), 18), 1, 18);
+        CHECK.breaks("a LONG as 1 of n = 2", m.file(), 4, 10);
+        CHECK.breaks("a LONG as 1 of n = 2, not all there", Arrays.copyOf(m.file(), 18), 1, 18);
+        m.sayCount(3);
+        CHECK.breaks("a LONG as 1 of n = 3", m.file(), 1, 19);
         m = new Maker(52);
-        for (int i = 1; i < 299; i++) {
-            m.number(i);
+        m.classOf("A");
+        m.classOf("java/lang/Object");
+        int k = m.longNumber(1);
+        CHECK.passes("a LONG as n - 2", rest(m));
+        m.sayCount(k + 1);
+        CHECK.breaks("a LONG as n - 1", m.file(), 4, m.place(k));
+        for (int last : new int[] {297, 298, 299}) {
+            m = new Maker(52);
+            m.classOf("A");
+            m.classOf("java/lang/Object");
+            for (int i = 5; i < last; i++) {
+                m.number(i);
+            }
+            k = m.longNumber(1);
+            if (last < 298) {
+                m.number(0);
+            }
+            m.sayCount(300);
+            CHECK.judged("a LONG as " + last + " of n = 300", rest(m), last < 299 ? 0 : 4, m.place(k));
         }
-        k = m.longNumber(1);
-        m.sayCount(300);
-        CHECK.breaks("a LONG as number 299", m.file(), 4, m.place(k));
         m = new Maker(52);
         k = m.longNumber(1);
         int string = m.one(8, k + 1);
         CHECK.breaks("to the number behind a LONG", rest(m), 8, m.place(string) + 1);
-    }
-
-    private static void letters() {
-        for (int b = 1; b < 0x80; b++) {
-            CHECK.passes("letter " + b, textFile(b));
-        }
-        badLetter(0, 0);
-        for (int b = 0x80; b <= 0xC1; b++) {
-            if (b != 0xC0) {
-                badLetter(0, b, 0x80);
-            }
-        }
-        for (int b = 0xF0; b <= 0xFF; b++) {
-            badLetter(1, 'a', b, 0x80, 0x80);
-        }
-        CHECK.passes("C0 80", textFile(0xC0, 0x80));
-        badLetter(1, 0xC0, 0x81);
-        badLetter(1, 0xC0, 0x7F);
-        CHECK.passes("C2 80, DF BF", textFile(0xC2, 0x80, 0xDF, 0xBF));
-        badLetter(1, 0xC2, 0x7F);
-        badLetter(1, 0xDF, 0xC0);
-        CHECK.passes("E0 A0 80, E0 BF BF", textFile(0xE0, 0xA0, 0x80, 0xE0, 0xBF, 0xBF));
-        badLetter(1, 0xE0, 0x9F, 0x80);
-        badLetter(1, 0xE0, 0xC0, 0x80);
-        badLetter(2, 0xE0, 0xA0, 0x7F);
-        badLetter(2, 0xE0, 0xA0, 0xC0);
-        CHECK.passes("E1 80 80, EF BF BF", textFile(0xE1, 0x80, 0x80, 0xEF, 0xBF, 0xBF));
-        badLetter(1, 0xE1, 0x7F, 0x80);
-        badLetter(2, 0xEF, 0x80, 'a');
-        badLetter(1, 0xE1, 'a');
-        for (int[] early : new int[][] {{0xC0}, {'a', 0xC2}, {0xE0}, {0xE0, 0xA0}, {0xEF, 0x80}}) {
-            CHECK.breaks("ends too early " + Arrays.toString(early), textFile(early), 5, 11);
-        }
-        CHECK.passes("no letter", textFile());
-        Maker m = new Maker(52);
-        m.raw(1, 255, 255, 'a', 0);
-        CHECK.breaks("a wrong letter ahead of the end", m.file(), 5, 14);
         m = new Maker(52);
-        m.raw(1, 255, 255, 'a', 0xC2);
-        CHECK.breaks("the end ahead of the TEXT's", m.file(), 1, 15);
+        k = m.longNumber(1);
+        string = m.one(8, k);
+        CHECK.breaks("to the LONG", rest(m), 8, m.place(string) + 1);
     }
 
     private static byte[] textFile(int... letters) {
@@ -148,164 +209,430 @@ public final class PoolTest {
         return rest(m);
     }
 
+    /** A wrong byte in a TEXT of its own, and behind other letters. */
     private static void badLetter(int index, int... letters) {
-        CHECK.breaks("letters " + Arrays.toString(letters), textFile(letters), 5, 13 + index);
+        String what = "letters " + Arrays.toString(letters);
+        CHECK.breaks(what, textFile(letters), 5, 13 + index);
+        int[] later = new int[letters.length + 6];
+        int[] ahead = {'a', 0xC3, 0xA9, 0xE2, 0x82, 0xAC};
+        System.arraycopy(ahead, 0, later, 0, 6);
+        System.arraycopy(letters, 0, later, 6, letters.length);
+        CHECK.breaks(what + " behind others", textFile(later), 5, 19 + index);
+    }
+
+    private static void lettersOfOne() {
+        CHECK.says("A TEXT is letters of one byte 01 .. 7F");
+        for (int b = 1; b < 0x80; b++) {
+            CHECK.passes("letter " + b, textFile(b));
+        }
+        badLetter(0, 0);
+        for (int b = 0x80; b < 0xC0; b++) {
+            badLetter(0, b, 0x80);
+        }
+        for (int b = 0xF0; b <= 0xFF; b++) {
+            badLetter(0, b, 0x80, 0x80, 0x80);
+        }
+    }
+
+    private static void lettersOfTwo() {
+        CHECK.says("of two, C0 80, or C2 .. DF and 80 .. BF");
+        for (int first = 0xC0; first <= 0xDF; first++) {
+            for (int next = 0; next < 256; next++) {
+                if (first == 0xC1) {
+                    badLetter(0, first, next);
+                } else if (next == 0x80 || first != 0xC0 && next > 0x80 && next <= 0xBF) {
+                    CHECK.passes("letter " + first + " " + next, textFile(first, next));
+                } else {
+                    badLetter(1, first, next);
+                }
+            }
+        }
+    }
+
+    private static void lettersOfThree() {
+        CHECK.says("of three, E0 and A0 .. BF, or E1 .. EF and 80 .. BF, then 80 .. BF.");
+        for (int first = 0xE0; first <= 0xEF; first++) {
+            for (int next = 0; next < 256; next++) {
+                if (next >= (first == 0xE0 ? 0xA0 : 0x80) && next <= 0xBF) {
+                    CHECK.passes("letter " + first + " " + next, textFile(first, next, 0x80, first, next, 0xBF));
+                    badLetter(2, first, next, 0x7F);
+                    badLetter(2, first, next, 0xC0);
+                    badLetter(2, first, next, 0);
+                } else {
+                    badLetter(1, first, next, 0x80);
+                    badLetter(1, first, next);
+                }
+            }
+        }
+        for (int last = 0; last < 256; last++) {
+            CHECK.judged("E2 82 " + last, textFile(0xE2, 0x82, last), last >= 0x80 && last <= 0xBF ? 0 : 5, 15);
+        }
+    }
+
+    private static void textEndsEarly() {
+        CHECK.says("The byte with which it cannot be any more is the PLACE (the number of bytes', if it ends too early).");
+        for (int[] early : new int[][] {{0xC0}, {0xC2}, {0xDF}, {'a', 0xC2}, {0xE0}, {0xE1}, {0xEF}, {0xE0, 0xA0}, {0xEF, 0x80},
+            {0xC2, 0x80, 0xC2}, {0xE1, 0x80, 0x80, 0xE1, 0x80}}) {
+            CHECK.breaks("ends too early " + Arrays.toString(early), textFile(early), 5, 11);
+        }
+        Maker m = new Maker(52);
+        m.text("ab");
+        int k = m.otherText(Maker.bytes('c', 0xE1, 0x80));
+        CHECK.breaks("the second ends too early", rest(m), 5, m.place(k) + 1);
+        CHECK.breaks("a wrong byte ahead of too early an end", textFile(0xE1, 0x80, 0xE1, 0xC2), 5, 15);
+        CHECK.passes("no letter", textFile());
+    }
+
+    /** Every u2 of an entry to every number: all but those of one KIND are refused. */
+    private static void references() {
+        CHECK.says("a number of the POOL that is no entry, or of another KIND: 8; its u2 is the PLACE");
+        int[][] rows = {{7, 1, 1}, {8, 1, 1}, {9, 1, 7}, {9, 3, 12}, {10, 1, 7}, {10, 3, 12}, {11, 1, 7}, {11, 3, 12},
+            {12, 1, 1}, {12, 3, 1}};
+        for (int[] row : rows) {
+            Maker known = new Maker(52);
+            int[] numbers = oneOfEach(known);
+            int at = known.place(numbers[row[0]]) + row[1];
+            byte[] file = rest(known);
+            int n = (file[8] & 255) << 8 | file[9] & 255;
+            List<Integer> wrong = new ArrayList<>(List.of(0, n, n + 1, 255, 256, 299, 300, 301, 0x7FFF, 0x8000, 0xFFFF));
+            for (int kind = 0; kind < numbers.length; kind++) {
+                if (kind != row[2] && numbers[kind] != 0) {
+                    wrong.add(numbers[kind]);
+                }
+            }
+            CHECK.passes("all are right", file);
+            for (int to : wrong) {
+                byte[] other = file.clone();
+                other[at] = (byte) (to >> 8);
+                other[at + 1] = (byte) to;
+                CHECK.breaks("KIND " + row[0] + " at " + row[1] + " to " + to, other, 8, at);
+            }
+        }
+        Maker m = new Maker(52);
+        int k = m.one(8, 6);
+        m.open(0x21).u2(0, 0, 0);
+        m.text("the last number");
+        CHECK.due("the last number is told", m.text("the last number"), 6);
+        CHECK.passes("to the last number", m.file());
+        m = new Maker(52);
+        m.text("the first number");
+        k = m.one(8, 1);
+        CHECK.passes("to the first number", rest(m));
+        CHECK.due("the first number is told", k, 2);
+    }
+
+    private static void classOf(String name, int rule) {
+        Maker m = new Maker(52);
+        int k = m.classOf(name);
+        CHECK.judged("CLASS " + name, rest(m), rule, m.place(k) + 1);
     }
 
     private static void classNames() {
-        String[] right = {"a", "a/b", "a/b/c", "(", "a b", "F", "D", "\u00C2\u0080", "[I", "[[[[[[[[Z", "[La/b;",
-            "[[B", "[C", "[J", "[S", "LA", "V", "init"};
-        for (String name : right) {
-            Maker m = new Maker(52);
-            m.classOf(name);
-            CHECK.passes("CLASS " + name, rest(m));
+        CHECK.says("A CLASS NAME: one or more parts, each as a plain name, / between.");
+        for (char c : LETTERS.toCharArray()) {
+            int rule = ".;[/<>".indexOf(c) < 0 ? 0 : 9;
+            classOf("" + c, rule);
+            classOf("a/" + c, rule);
+            classOf(c + "/a", rule);
+            classOf("a" + c + "a", c == '/' ? 0 : rule);
+            classOf("a/a" + c, rule);
         }
-        String[] wrong = {"", "/", "a/", "/a", "a//b", "a.b", "a;", "La;", "a[", "<init>", "a>b", "[", "[V", "[[[[[[[[[I",
-            "[La", "[L;", "[La//b;", "[I;", "[II", "[()V", "[[[[[[[[[F", "[FF", "[a", "[L[I;"};
-        for (String name : wrong) {
-            Maker m = new Maker(52);
-            int k = m.classOf(name);
-            CHECK.breaks("CLASS " + name, rest(m), 9, m.place(k) + 1);
+        for (String right : new String[] {"a/b", "a/b/c", "a/b/c/d/e/f/g", "()V", "\u00C2\u0080", "F", "D", "LA", "V",
+            "x".repeat(3000), "x/".repeat(1000) + "x"}) {
+            classOf(right, 0);
         }
-        for (String name : new String[] {"[F", "[D", "[[[[[[[[D"}) {
-            Maker m = new Maker(52);
-            int k = m.classOf(name);
-            CHECK.breaks("CLASS " + name, rest(m), 12, m.place(k) + 1);
+        for (String wrong : new String[] {"", "/", "//", "a/", "/a", "a//b", "/a/b", "a/b/", "a/b//c", "La;", "<init>", "<clinit>",
+            "x/".repeat(1000)}) {
+            classOf(wrong, 9);
         }
-        Maker m = new Maker(52);
-        int number = m.number(1);
-        int k = m.one(7, number);
-        CHECK.breaks("CLASS to an INT", rest(m), 8, m.place(k) + 1);
+    }
+
+    private static void arrays() {
+        CHECK.says("or an array: 1 to 8 [ and what may follow these in a field's descriptor (9)");
+        for (int n = 0; n <= 12; n++) {
+            String ahead = "[".repeat(n);
+            for (String type : new String[] {"B", "C", "I", "J", "S", "Z"}) {
+                classOf(ahead + type, n <= 8 ? 0 : 9);
+            }
+            classOf(ahead + "La/b;", n >= 1 && n <= 8 ? 0 : 9);
+            classOf(ahead + "F", n == 0 ? 0 : n <= 8 ? 12 : 9);
+            classOf(ahead + "D", n == 0 ? 0 : n <= 8 ? 12 : 9);
+        }
+        for (char c : LETTERS.toCharArray()) {
+            classOf("[" + c, "BCIJSZ".indexOf(c) >= 0 ? 0 : "FD".indexOf(c) >= 0 ? 12 : 9);
+        }
+        for (String wrong : new String[] {"[", "[[[[[[[[", "[[[[[[[[[", "[La", "[L;", "[La//b;", "[L/;", "[I;", "[II", "[()V",
+            "[FF", "[La;;", "[La;I", "[L[I;", "[L<init>;", "[L", "I[", "a[I"}) {
+            classOf(wrong, 9);
+        }
     }
 
     private static void strings() {
-        Maker m = new Maker(52);
-        m.string("any . text [");
-        CHECK.passes("STRING", rest(m));
-        for (int to : new int[] {0, 1, 9, 65535}) {
-            m = new Maker(52);
-            int k = m.one(8, to);
-            CHECK.breaks("STRING to " + to, rest(m), 8, m.place(k) + 1);
-        }
-    }
-
-    private static void namedNames() {
-        for (String name : new String[] {"a", "<init>", "<clinit>", "(", "\u00E0\u00A0\u0080"}) {
+        CHECK.says("STRING to a TEXT.");
+        for (String any : new String[] {"", "any . text ; [ / < >", "[F", "(D)V", "\u00C0\u0080"}) {
             Maker m = new Maker(52);
-            m.named(name, "I");
-            CHECK.passes("NAMED " + name, rest(m));
-        }
-        for (String name : new String[] {"", "a.b", "a/b", "[a", "a;", "<a", "a>", "<init", "<init>a", "<clinit>>", "<Init>",
-            "()V/x", "(I/b", "()La/b;c/d", "()/"}) {
-            Maker m = new Maker(52);
-            int k = m.named(name, "F");
-            CHECK.breaks("NAMED " + name, rest(m), 9, m.place(k) + 1);
-        }
-        Maker m = new Maker(52);
-        int k = m.two(12, 300, 300);
-        CHECK.breaks("NAMED to no name", rest(m), 8, m.place(k) + 1);
-        m = new Maker(52);
-        k = m.two(12, m.text("a"), 2);
-        CHECK.breaks("NAMED to no descriptor", rest(m), 8, m.place(k) + 3);
-    }
-
-    private static void descriptors() {
-        String longs = "J".repeat(125);
-        String[] right = {"B", "C", "I", "J", "S", "Z", "La;", "La/b/F;", "[[[[[[[[I", "[Lx;", "()V", "()I", "()[J", "()La;",
-            "(I)V", "(IJ[[Lx;Z)La/b;", "(" + longs + ")V", "(" + "I".repeat(250) + ")V", "(" + "[J".repeat(250) + ")J",
-            "(" + "La;".repeat(250) + ")V"};
-        for (String type : right) {
-            Maker m = new Maker(52);
-            m.named("a", type);
-            CHECK.passes("NAMED " + type, rest(m));
-        }
-        String[] wrong = {"", "V", "[V", "[[[[[[[[[I", "L;", "La", "La//b;", "L/a;", "La;;", "II", "a", "(", "()", "()VV", "()II",
-            "(V)V", "()[V", "(I", ")V", "I()V", "(()V)V", "(I)", "(La)V", "(" + longs + "I)V", "(" + "I".repeat(251) + ")V",
-            "FF", "(F", "(FV)V", "(F)VF", "[[[[[[[[[D", "(L[F;)V", "L[I;", "(D)", "()[[[[[[[[[J", "(" + "F".repeat(251) + ")V"};
-        for (String type : wrong) {
-            Maker m = new Maker(52);
-            int k = m.named("a", type);
-            CHECK.breaks("NAMED " + type, rest(m), 11, m.place(k) + 3);
-        }
-    }
-
-    private static void floats() {
-        for (String type : new String[] {"F", "D", "[F", "(F)V", "()D", "(ILx;[[[D)V", "(F)F", "([D[F)[D"}) {
-            Maker m = new Maker(52);
-            int k = m.named("a", type);
-            CHECK.breaks("NAMED " + type, rest(m), 12, m.place(k) + 3);
-        }
-        for (String type : new String[] {"LF;", "(LD;)LF;", "[LaF;"}) {
-            Maker m = new Maker(52);
-            m.named("a", type);
-            CHECK.passes("NAMED " + type, rest(m));
-        }
-    }
-
-    private static void members() {
-        member(9, "a", "I", true);
-        member(9, "a", "[[Lx;", true);
-        member(9, "a", "()V", false);
-        member(9, "<init>", "I", false);
-        member(9, "<clinit>", "I", false);
-        member(10, "a", "()I", true);
-        member(10, "<init>", "(I)V", true);
-        member(10, "<init>", "()I", false);
-        member(10, "<init>", "I", false);
-        member(10, "<clinit>", "()V", false);
-        member(10, "a", "I", false);
-        member(11, "a", "(J)J", true);
-        member(11, "a", "J", false);
-        member(11, "<init>", "()V", false);
-        member(11, "<clinit>", "()V", false);
-        for (int kind = 9; kind <= 11; kind++) {
-            Maker m = new Maker(52);
-            int k = m.two(kind, m.text("a"), 0);
-            CHECK.breaks("to no CLASS " + kind, rest(m), 8, m.place(k) + 1);
-            m = new Maker(52);
-            int owner = m.classOf("[I");
-            k = m.two(kind, owner, owner);
-            CHECK.breaks("to no NAMED " + kind, rest(m), 8, m.place(k) + 3);
+            m.string(any);
+            CHECK.passes("STRING " + any, rest(m));
         }
     }
 
     private static void member(int kind, String name, String type, boolean right) {
         Maker m = new Maker(52);
         int k = m.two(kind, m.classOf("x"), m.named(name, type));
-        String what = kind + " " + name + " " + type;
-        if (right) {
-            CHECK.passes(what, rest(m));
-        } else {
-            CHECK.breaks(what, rest(m), 10, m.place(k) + 3);
+        CHECK.judged(kind + " " + name + " " + type, rest(m), right ? 0 : 10, m.place(k) + 3);
+        m = new Maker(52);
+        k = m.two(kind, m.classOf("[[I"), m.named(name, type));
+        CHECK.judged(kind + " of an array " + name + " " + type, rest(m), right ? 0 : 10, m.place(k) + 3);
+    }
+
+    private static void members() {
+        CHECK.says("FIELD, METHOD, OUTER to a CLASS, then a NAMED; then 10, at the second u2");
+        for (int kind = 9; kind <= 11; kind++) {
+            Maker m = new Maker(52);
+            int k = m.two(kind, m.text("a"), 0);
+            CHECK.breaks("to no CLASS, then to no NAMED " + kind, rest(m), 8, m.place(k) + 1);
+            m = new Maker(52);
+            int owner = m.classOf("[I");
+            k = m.two(kind, owner, owner);
+            CHECK.breaks("to no NAMED " + kind, rest(m), 8, m.place(k) + 3);
+        }
+        CHECK.says("a FIELD's is a plain name with a field's descriptor");
+        for (String name : new String[] {"a", "<init>", "<clinit>"}) {
+            for (String type : new String[] {"I", "[[Lx;", "()V", "()I", "(I)V"}) {
+                member(9, name, type, name.equals("a") && type.charAt(0) != '(');
+            }
+        }
+        CHECK.says("a METHOD's a plain name or <init> (with V) with a method's");
+        for (String type : new String[] {"I", "[[Lx;", "()V", "()I", "(I)V", "(J)[J", "(LV;)LV;"}) {
+            member(10, "a", type, type.charAt(0) == '(');
+            member(10, "<init>", type, type.charAt(0) == '(' && type.endsWith(")V"));
+            member(10, "<clinit>", type, false);
+        }
+        CHECK.says("an OUTER's a plain name with a method's");
+        for (String type : new String[] {"I", "[[Lx;", "()V", "()I", "(I)V", "(J)[J"}) {
+            member(11, "a", type, type.charAt(0) == '(');
+            member(11, "<init>", type, false);
+            member(11, "<clinit>", type, false);
         }
     }
 
-    /** All of CLASS, STRING and NAMED come ahead of the members, and KINDS ahead of all. */
-    private static void order() {
+    private static void namedNames() {
+        CHECK.says("NAMED to a TEXT that is a plain name, <init> or <clinit> (9)");
+        for (String name : new String[] {"<init>", "<clinit>", "init", "clinit", "a"}) {
+            named(name, "I", 0, 1);
+        }
+        for (String name : new String[] {"<init", "init>", "<init>a", "a<init>", "<Init>", "<clinit", "clinit>", "<clinit>>", "<>",
+            "<clini>", "<inita>", "()V/x", "(I/b", "()La/b;c/d", "()/"}) {
+            named(name, "F", 9, 1);
+        }
+    }
+
+    private static void named(String name, String type, int rule, int at) {
         Maker m = new Maker(52);
-        m.two(9, 0, 0);
-        int k = m.one(8, 0);
-        m.one(7, 0);
-        CHECK.breaks("STRING ahead of FIELD", rest(m), 8, m.place(k) + 1);
+        int k = m.named(name, type);
+        CHECK.judged("NAMED " + name + " " + type, rest(m), rule, m.place(k) + at);
+    }
+
+    private static void namedTypes() {
+        CHECK.says("to a TEXT that is a descriptor (11)");
+        for (String type : new String[] {"B", "[[[[[[[[I", "La;", "()V", "(I)V"}) {
+            named("a", type, 0, 3);
+            named("<init>", type, 0, 3);
+            named("<clinit>", type, 0, 3);
+        }
+        for (String type : new String[] {"", "a", "V", "II", "I()V", "()", "La"}) {
+            named("a", type, 11, 3);
+            named("<init>", type, 11, 3);
+            named("a/b", type, 9, 1);
+        }
+        Maker m = new Maker(52);
+        int k = m.two(12, m.text("a/b"), 0);
+        CHECK.breaks("a wrong name ahead of no TEXT", rest(m), 9, m.place(k) + 1);
         m = new Maker(52);
+        k = m.two(12, 0, m.text("V"));
+        CHECK.breaks("no TEXT ahead of a wrong descriptor", rest(m), 8, m.place(k) + 1);
+    }
+
+    private static void order() {
+        CHECK.says("(First all of CLASS, STRING and NAMED, then those of FIELD, METHOD, OUTER; each by numbers.)");
+        for (int member = 9; member <= 11; member++) {
+            for (int other : new int[] {7, 8, 12}) {
+                Maker m = new Maker(52);
+                m.two(member, 0, 0);
+                int k = other == 12 ? m.two(12, 0, 0) : m.one(other, 0);
+                CHECK.breaks(other + " ahead of " + member, rest(m), 8, m.place(k) + 1);
+            }
+            for (int other = 9; other <= 11; other++) {
+                Maker m = new Maker(52);
+                int named = m.named("<clinit>", "I");
+                int k = m.two(member, m.classOf("x"), named);
+                m.two(other, 0, 0);
+                CHECK.breaks(member + ", then " + other, rest(m), 10, m.place(k) + 3);
+            }
+        }
+        for (int one : new int[] {7, 8, 12}) {
+            for (int other : new int[] {7, 8, 12}) {
+                Maker m = new Maker(52);
+                int k = one == 12 ? m.two(12, 0, 0) : m.one(one, 0);
+                m.raw(other == 12 ? new int[] {12, 0, 0, 0, 0} : new int[] {other, 0, 0});
+                CHECK.breaks(one + ", then " + other, rest(m), 8, m.place(k) + 1);
+            }
+        }
+        CHECK.says("Then entry by entry what they refer to");
+        Maker m = new Maker(52);
         m.one(8, 0);
-        k = m.raw(2);
-        CHECK.breaks("KIND ahead of what it refers to", rest(m), 6, m.place(k));
+        int k = m.raw(2);
+        CHECK.breaks("a KIND ahead of what an earlier one refers to", rest(m), 6, m.place(k));
         m = new Maker(52);
-        k = m.two(11, m.classOf("x"), m.named("a", "I"));
-        m.two(9, 0, 0);
-        CHECK.breaks("members by numbers", rest(m), 10, m.place(k) + 3);
+        m.one(7, 0);
+        k = m.otherText(Maker.bytes('a', 0));
+        CHECK.breaks("a TEXT ahead of what an earlier one refers to", rest(m), 5, m.place(k) + 4);
         m = new Maker(52);
         int text = m.text("x");
         int type = m.text("I");
-        k = m.two(9, type + 2, type + 3);
+        m.two(9, type + 2, type + 3);
         m.one(7, text);
         m.two(12, text, type);
         CHECK.passes("to later numbers", rest(m));
     }
 
-    /** TEXTS that break off as descriptors, as the very last bytes that a FILE can have. */
+    private static void plainNames() {
+        CHECK.says("A plain name: one byte or more, none of . ; [ / < >.");
+        named("", "I", 9, 1);
+        for (char c : LETTERS.toCharArray()) {
+            int rule = ".;[/<>".indexOf(c) < 0 ? 0 : 9;
+            named("" + c, "I", rule, 1);
+            named("a" + c, "I", rule, 1);
+            named(c + "a", "I", rule, 1);
+            named("ab" + c + "cd", "()V", rule, 1);
+        }
+        named("\u00C0\u0080", "I", 0, 1);
+        named("\u00E0\u00A0\u0080\u00C2\u00BF", "I", 0, 1);
+        named("x".repeat(3000), "I", 0, 1);
+    }
+
+    private static void fieldTypes() {
+        CHECK.says("A field's descriptor: B C I J S Z, or L CLASS NAME ;");
+        for (char c : LETTERS.toCharArray()) {
+            int rule = "BCIJSZ".indexOf(c) >= 0 ? 0 : "FD".indexOf(c) >= 0 ? 12 : 11;
+            named("a", "" + c, rule, 3);
+            named("a", "I" + c, 11, 3);
+            named("a", "L" + c + ";", ".;[/<>".indexOf(c) < 0 ? 0 : 11, 3);
+            named("a", "La" + c, c == ';' ? 0 : 11, 3);
+        }
+        for (String right : new String[] {"La;", "La/b;", "La/b/c/F;", "LL;", "L(;", "L\u00C2\u0080;", "L" + "x".repeat(3000) + ";"}) {
+            named("a", right, 0, 3);
+        }
+        for (String wrong : new String[] {"", "L", "L;", "L/;", "La", "La/;", "L/a;", "La//b;", "La;;", "La;I", "ILa;", "L[I;", "La.b;",
+            "L<a>;", "V"}) {
+            named("a", wrong, 11, 3);
+        }
+    }
+
+    private static void brackets() {
+        CHECK.says("behind up to 8 [.");
+        for (int n = 0; n <= 10; n++) {
+            String ahead = "[".repeat(n);
+            for (String type : new String[] {"B", "C", "I", "J", "S", "Z", "La;"}) {
+                named("a", ahead + type, n <= 8 ? 0 : 11, 3);
+                named("a", "(" + ahead + type + ")V", n <= 8 ? 0 : 11, 3);
+                named("a", "(I" + ahead + type + ")V", n <= 8 ? 0 : 11, 3);
+                named("a", "()" + ahead + type, n <= 8 ? 0 : 11, 3);
+            }
+            named("a", ahead + "D", n <= 8 ? 12 : 11, 3);
+            named("a", "(" + ahead + "F)V", n <= 8 ? 12 : 11, 3);
+            named("a", "()" + ahead + "D", n <= 8 ? 12 : 11, 3);
+            named("a", ahead, 11, 3);
+            named("a", ahead + "V", 11, 3);
+        }
+    }
+
+    private static void methodTypes() {
+        CHECK.says("A method's: ( any of these ), then one or V");
+        for (char c : LETTERS.toCharArray()) {
+            int rule = "BCIJSZ".indexOf(c) >= 0 ? 0 : "FD".indexOf(c) >= 0 ? 12 : 11;
+            named("a", "(" + c + ")V", rule, 3);
+            named("a", "(I" + c + ")V", rule, 3);
+            named("a", "()" + c, c == 'V' ? 0 : rule, 3);
+            named("a", "()V" + c, 11, 3);
+            named("a", "()I" + c, 11, 3);
+            named("a", c + "()V", 11, 3);
+        }
+        for (String right : new String[] {"()V", "()I", "()[J", "()La;", "(IJ[[Lx;Z)La/b;", "(La;Lb;)V", "(L);)V", "(L(;)V", "()L);"}) {
+            named("a", right, 0, 3);
+        }
+        for (String wrong : new String[] {"(", ")", "()", "(I", "(I)", "(V)V", "()[V", "(IV)V", "(()V)V", "(La)V", "(L;)V", "()La",
+            "()L;", "(]V", "()()V", "(I)V)", "([)V", "(I[)V", "(La;", "(La;)"}) {
+            named("a", wrong, 11, 3);
+        }
+    }
+
+    private static void slots() {
+        CHECK.says("the arguments take at most 250 SLOTS (J two)");
+        String[] ones = {"B", "C", "I", "S", "Z", "La;", "[J", "[[J", "[I", "LJ;"};
+        for (String one : ones) {
+            named("a", "(" + one.repeat(249) + ")V", 0, 3);
+            named("a", "(" + one.repeat(250) + ")V", 0, 3);
+            named("a", "(" + one.repeat(251) + ")V", 11, 3);
+            named("a", "(" + "J".repeat(124) + one.repeat(2) + ")J", 0, 3);
+            named("a", "(" + one.repeat(3) + "J".repeat(124) + ")V", 11, 3);
+        }
+        named("a", "(" + "J".repeat(125) + ")V", 0, 3);
+        named("a", "(" + "J".repeat(125) + ")J", 0, 3);
+        named("a", "(" + "J".repeat(125) + "I)V", 11, 3);
+        named("a", "(" + "J".repeat(126) + ")V", 11, 3);
+        named("a", "(I" + "J".repeat(125) + ")V", 11, 3);
+        named("a", "(" + "I".repeat(3000) + ")V", 11, 3);
+    }
+
+    private static void floats() {
+        CHECK.says("Descriptors with F or D as types: 12 (at the u2 of the NAMED, a member's; of a CLASS that is an array, too)");
+        for (String type : new String[] {"F", "D", "[F", "[[[[[[[[D", "(F)V", "(D)V", "()D", "()F", "()[F", "(ILx;[[[D)V", "(F)F",
+            "([D[F)[D", "(IF)I", "(FI)I"}) {
+            named("a", type, 12, 3);
+            named("<init>", type, 12, 3);
+        }
+        for (String type : new String[] {"LF;", "(LD;)LF;", "[LaF;", "LFD;", "(LF;LD;)V"}) {
+            named("F", type, 0, 3);
+            named("D", type, 0, 3);
+        }
+        for (String name : new String[] {"[F", "[D", "[[[[[[[[D"}) {
+            classOf(name, 12);
+        }
+        for (String name : new String[] {"F", "D", "F/D", "[LF;"}) {
+            classOf(name, 0);
+        }
+        Maker m = new Maker(52).open(0x21).u2(1).member("f", 0, "f", "D").u2(0, 0, 0);
+        CHECK.breaks("a field's", m.file(), 12, m.place("f.type"));
+        m = new Maker(52).open(0x421).u2(0, 1).member("m", 0x400, "m", "(F)V").u2(0, 0);
+        CHECK.breaks("a method's", m.file(), 12, m.place("m.type"));
+    }
+
+    private static void floatsElsewhereWrong() {
+        CHECK.says("where else they would be right with them.");
+        for (String type : new String[] {"FF", "FI", "DV", "(F", "(D)", "(FV)V", "(F)VF", "[[[[[[[[[D", "(L[F;)V", "()[[[[[[[[[F", "F;",
+            "(F)V)", "F()V"}) {
+            named("a", type, 11, 3);
+        }
+        named("a/b", "F", 9, 1);
+        for (String wide : new String[] {"F", "D"}) {
+            named("a", "(" + wide.repeat(250) + ")V", 12, 3);
+            named("a", "(" + wide.repeat(251) + ")V", 11, 3);
+        }
+        named("a", "(" + "J".repeat(124) + "FF)V", 12, 3);
+        named("a", "(" + "J".repeat(125) + "F)V", 11, 3);
+        for (String name : new String[] {"[[[[[[[[[F", "[FF", "[F;", "[DV"}) {
+            classOf(name, 9);
+        }
+        Maker m = new Maker(52).open(0x21).u2(1).member("f", 0, "f", "(F)V").u2(0, 0, 0);
+        CHECK.breaks("a field's", m.file(), 11, m.place("f.type"));
+        m = new Maker(52).open(0x421).u2(0, 1).member("m", 0x400, "m", "F").u2(0, 0);
+        CHECK.breaks("a method's", m.file(), 11, m.place("m.type"));
+    }
+
+    /** What breaks off as a descriptor, as the very last bytes that a FILE can have. */
     private static void fullFile() {
+        CHECK.says("What would be read beyond the end: RULE 1 (TEXTS and entries at the end of 4000 bytes)");
         for (String last : new String[] {"", "(", "[", "([", "L", "(L", "La", "()", "()[", "()L", "(I", "[[[[[[[[[", "<init>"}) {
             Maker m = new Maker(52);
             m.otherText("x".repeat(4000 - 10 - 3 - 3 - last.length()));

@@ -11,7 +11,7 @@ import java.util.regex.Pattern;
  * exception for the first broken rule), so that the two can be held against each other.
  */
 final class SecondReading {
-    private static final String[] NAMES = ("nop aconst_null iconst_m1 iconst_0 iconst_1 iconst_2 iconst_3 iconst_4 iconst_5 "
+    static final String[] NAMES = ("nop aconst_null iconst_m1 iconst_0 iconst_1 iconst_2 iconst_3 iconst_4 iconst_5 "
         + "lconst_0 lconst_1 fconst_0 fconst_1 fconst_2 dconst_0 dconst_1 bipush sipush ldc ldc_w ldc2_w iload lload fload "
         + "dload aload iload_0 iload_1 iload_2 iload_3 lload_0 lload_1 lload_2 lload_3 fload_0 fload_1 fload_2 fload_3 "
         + "dload_0 dload_1 dload_2 dload_3 aload_0 aload_1 aload_2 aload_3 iaload laload faload daload aaload baload caload "
@@ -208,7 +208,7 @@ final class SecondReading {
         while (type.charAt(i) != ')') {
             m.region(i, type.length());
             m.lookingAt();
-            many += m.group().equals("J") || m.group().equals("D") ? 2 : 1;
+            many += m.group().equals("J") ? 2 : 1;
             i = m.end();
         }
         return many;

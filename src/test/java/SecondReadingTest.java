@@ -26,7 +26,6 @@ public final class SecondReadingTest {
         for (int i = 0; i < FILES; i++) {
             compare(new Chance(chance).file());
         }
-        calls(chance);
         for (int rule = 0; rule < RULES.length; rule++) {
             CHECK.due("RULE " + rule + " was met", RULES[rule] > 0 ? 1 : 0, 1);
         }
@@ -124,106 +123,5 @@ public final class SecondReadingTest {
             out.append(String.format("%02X", b));
         }
         return out.toString();
-    }
-
-    /** Calls with any arguments, on any state: none throws, and the FILE is as a plain row is. */
-    private static void calls(Random chance) {
-        List<byte[]> samples = Samples.all();
-        for (int run = 0; run < 300; run++) {
-            CodeGate gate = new CodeGate();
-            byte[] row = new byte[0];
-            if (run % 2 == 0) {
-                row = samples.get(chance.nextInt(samples.size()));
-                Check.feedAll(gate, row);
-            }
-            SecondReading judged = null;
-            for (int i = 0; i < 250; i++) {
-                int a = anyInt(chance);
-                int b = anyInt(chance);
-                boolean in = a >= 0 && a < row.length;
-                switch (chance.nextInt(11)) {
-                    case 0:
-                        int n = Math.min(b, 20);
-                        boolean fits = n >= 1 && n <= 16 && row.length + n <= 4000;
-                        if (fits) {
-                            byte[] longer = Arrays.copyOf(row, row.length + n);
-                            for (int k = 0; k < n; k++) {
-                                longer[row.length + k] = (byte) (a >> (24 - 8 * (k % 4)));
-                            }
-                            row = longer;
-                        }
-                        CHECK.due("feed", gate.feed(a, a, a, a, n), fits ? row.length : n < 1 || n > 16 ? -1 : -2);
-                        break;
-                    case 1:
-                        boolean less = b >= 0 && b <= row.length && b < 20;
-                        b = less || b > row.length || b < 0 ? b : row.length + 1;
-                        row = less ? Arrays.copyOf(row, row.length - b) : row;
-                        CHECK.due("cut", gate.cut(b), less ? row.length : -1);
-                        break;
-                    case 2:
-                        if (in) {
-                            row = row.clone();
-                            row[a] ^= (byte) b;
-                        }
-                        CHECK.due("turn", gate.turn(a, b), in ? row[a] & 255 : -1);
-                        break;
-                    case 3:
-                        CHECK.due("byteAt", gate.byteAt(a), in ? row[a] & 255 : -1);
-                        break;
-                    case 4:
-                        judged = new SecondReading(row);
-                        CHECK.due("judge", gate.judge(), judged.judged());
-                        break;
-                    case 5:
-                        CHECK.due("rule", gate.rule(), judged == null ? 0 : judged.rule);
-                        break;
-                    case 6:
-                        boolean known = judged != null && judged.rule == 0 && a >= 0 && a < 9;
-                        CHECK.due("told", gate.told(a), known ? judged.told[a] : -1);
-                        break;
-                    case 7:
-                        boolean there = judged != null && judged.rule == 0 && a >= 0 && a < judged.methods.size() && b >= 0 && b < 6;
-                        CHECK.due("method", gate.method(a, b), there ? judged.methods.get(a)[b] : -1);
-                        break;
-                    case 8:
-                        boolean entry = judged != null && judged.rule == 0 && a > 0 && a < judged.told[0];
-                        CHECK.due("entry", gate.entry(a), entry ? judged.kind(a) : -1);
-                        break;
-                    case 9:
-                        boolean right = b >= 1 && b <= 255 && new SecondReading(row).rule == 0;
-                        CHECK.due("guarded", gate.guarded(b), right ? guardedOf(row, b) : -1);
-                        break;
-                    default:
-                        CHECK.due("beginnings", gate.beginnings(), new SecondReading(row).rule == 0 ? row.length : -1);
-                }
-            }
-        }
-    }
-
-    private static int guardedOf(byte[] row, int mask) {
-        int many = 0;
-        for (int i = 0; i < row.length; i++) {
-            byte[] other = row.clone();
-            other[i] ^= (byte) mask;
-            many += new SecondReading(other).rule == 0 ? 0 : 1;
-        }
-        return many;
-    }
-
-    private static int anyInt(Random chance) {
-        switch (chance.nextInt(8)) {
-            case 0:
-                return chance.nextInt();
-            case 1:
-                return chance.nextInt(5) - 2;
-            case 2:
-                return Integer.MIN_VALUE + chance.nextInt(2);
-            case 3:
-                return Integer.MAX_VALUE - chance.nextInt(2);
-            case 4:
-                return chance.nextInt(300);
-            default:
-                return chance.nextInt(12);
-        }
     }
 }
