@@ -825,7 +825,7 @@ public final class CodeGate {
             long ways = (long) high - low + 1;
             walk.need(ways >= 1 && ways <= MOST_WAYS, 24, base + pc);
             at += 12;
-            for (int i = 0; i < ways && walk.sound(); i++) {
+            for (int i = 0; i < ways && i < MOST_WAYS && walk.sound(); i++) {
                 addJump(pc, switchNumber(pc, at));
                 at += 4;
             }

@@ -164,6 +164,11 @@ public final class ClassTest {
         Maker m = headOnly(0x21).u2(2);
         m.u2(m.classOf("Aa")).mark("second").u2(m.classOf("BB")).u2(0, 0, 0);
         judged("of the same hash", m, true, 0, "second");
+        for (String[] two : new String[][] {{"a", "aepdynmA"}, {"aepdynmA", "a"}, {"aepdynmA", "aepdzOmA"}, {"ab", "abc"}, {"abc", "ab"}}) {
+            m = headOnly(0x21).u2(2);
+            m.u2(m.classOf(two[0])).mark("second").u2(m.classOf(two[1])).u2(0, 0, 0);
+            judged("of which one begins with the other", m, true, 0, "second");
+        }
         m = headOnly(0x21).u2(2);
         judged("the class itself and that above", m.u2(m.classOf("A")).u2(m.classOf("java/lang/Object")).mark("n").u2(0, 0, 0), true, 0, "n");
         for (int wrong : new int[] {0, 3, 5, 0x8002, 0xFFFF}) {

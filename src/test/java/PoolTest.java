@@ -19,6 +19,8 @@ public final class PoolTest {
         lettersOfThree();
         textEndsEarly();
         references();
+        referencesOfTwoFiles();
+        firstNumber();
         classNames();
         arrays();
         strings();
@@ -321,6 +323,72 @@ public final class PoolTest {
         CHECK.due("the first number is told", k, 2);
     }
 
+    /** One object goes along a larger POOL, then a smaller one: what the larger one had is no entry of the smaller one. */
+    private static void referencesOfTwoFiles() {
+        CHECK.says("a number of the POOL that is no entry (though it was one of the FILE ahead)");
+        Maker larger = new Maker(52);
+        larger.open(0x21).u2(0, 0, 0);
+        for (int i = 0; i < 20; i++) {
+            larger.otherText("x");
+        }
+        for (int more = 0; more < 3; more++) {
+            Maker smaller = new Maker(52).open(0x21).u2(0, 0, 0);
+            int k = smaller.one(8, 6 + more);
+            CHECK.due("the last number", k, 5);
+            judgedBehind(larger, smaller.file(), 8, smaller.place(5) + 1);
+        }
+        Maker smaller = new Maker(52).open(0x21).u2(0, 0, 0);
+        int big = smaller.longNumber(1);
+        CodeGate gate = judgedBehind(larger, smaller.file(), 0, 0);
+        CHECK.due("behind a LONG", gate.entry(big + 1), 0);
+        int k = smaller.one(8, big + 1);
+        judgedBehind(larger, smaller.file(), 8, smaller.place(k) + 1);
+    }
+
+    private static CodeGate judgedBehind(Maker ahead, byte[] file, int rule, int place) {
+        CodeGate gate = Check.fed(ahead.file());
+        CHECK.due("the FILE ahead", gate.judge(), 0);
+        gate.cut(ahead.file().length);
+        Check.feedAll(gate, file);
+        CHECK.due("judge()", gate.judge(), rule == 0 ? 0 : 1 + place);
+        CHECK.due("rule()", gate.rule(), rule);
+        return gate;
+    }
+
+    private static void firstNumber() {
+        CHECK.says("the entries 1 .. n - 1 (what the first one is)");
+        Maker m = new Maker(52);
+        m.text("(JI)V");
+        m.open(0x21).u2(0, 1).member("m", 8, "m", "(JI)V").u2(1).code("c", 0, 2, 177).u2(0);
+        CHECK.breaks("a descriptor's SLOTS", m.file(), 21, m.place("c.locals"));
+        m = new Maker(52);
+        m.two(11, 3, 4);
+        m.text("T");
+        m.one(7, 2);
+        m.two(12, 5, 6);
+        m.text("n");
+        m.text("(JI)V");
+        coded("invokeinterface of 1", m, 0, 185, 0, 1, 4, 0, 177);
+        m = new Maker(52);
+        m.one(7, 2);
+        m.text("[[I");
+        coded("multianewarray of 1", m, 0, 197, 0, 1, 2, 177);
+        m = new Maker(52);
+        m.one(7, 2);
+        m.text("[[I");
+        coded("new of 1", m, 24, 187, 0, 1, 177);
+        m = new Maker(52);
+        m.one(7, 2);
+        m.text("[I");
+        m.u2(0x21).mark("self").u2(1).u2(0);
+        CHECK.breaks("an array", m.file(), 9, m.place("self"));
+    }
+
+    private static void coded(String what, Maker m, int rule, int... code) {
+        m.open(0x21).u2(0, 1).member("m", 8, "m", "()V").u2(1).code("c", 0, 0, code).u2(0);
+        CHECK.judged(what, m.file(), rule, m.place("c.code"));
+    }
+
     private static void classOf(String name, int rule) {
         Maker m = new Maker(52);
         int k = m.classOf(name);
@@ -505,6 +573,9 @@ public final class PoolTest {
             named("a" + c, "I", rule, 1);
             named(c + "a", "I", rule, 1);
             named("ab" + c + "cd", "()V", rule, 1);
+        }
+        for (String type : new String[] {"La;", "[I", "[[La;", "()[I", "(La;)V", "()La/b;", "(La;", "(La;)", "([I", "[", "[[[[[[[[[I"}) {
+            named(type, "I", 9, 1);
         }
         named("\u00C0\u0080", "I", 0, 1);
         named("\u00E0\u00A0\u0080\u00C2\u00BF", "I", 0, 1);

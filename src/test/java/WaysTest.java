@@ -19,6 +19,7 @@ public final class WaysTest {
         aims();
         farAims();
         switchAims();
+        aimsOfTwo();
         firstAim();
         mostAims();
         last();
@@ -269,6 +270,28 @@ public final class WaysTest {
         passes("to the return behind it", switchCode(TABLE, 2, 22, 0, 1, 22, 22));
         judged("to the end", 26, 2, switchCode(TABLE, 2, 22, 0, 1, 22, 23));
         passes("a key is no place", switchCode(PAIRS, 2, 0, 2, -77, -1, 77, -2));
+    }
+
+    /** A longer CODE stands ahead of this one; its first bytes do not count here, nor those of the FILE judged ahead. */
+    private static void aimsOfTwo() {
+        CHECK.says("is the first byte of an INSTRUCTION (of this CODE)");
+        for (int aim : new int[] {1, 2, 3, 4, 5, 6}) {
+            Maker m = new Maker(52).open(0x21).u2(0, 2).member("a", 8, "a", "()V").u2(1).code("c", 0, 0, 0, 0, 0, 0, 0, 0, 0, 0, RETURN);
+            m.member("b", 8, "b", "()V").u2(1).code("d", 0, 0, GOTO, 0, aim, RETURN).u2(0);
+            CHECK.judged("to " + aim, m.file(), aim == 3 ? 0 : 26, m.place("d.code"));
+            CodeGate gate = Check.fed(start().code("c", 0, 0, 0, 0, 0, 0, 0, 0, 0, 0, RETURN).u2(0).file());
+            CHECK.due("the FILE ahead", gate.judge(), 0);
+            gate.cut(gate.beginnings());
+            m = start().code("c", 0, 0, GOTO, 0, aim, RETURN).u2(0);
+            Check.feedAll(gate, m.file());
+            CHECK.due("to " + aim + " in the next FILE", gate.judge(), aim == 3 ? 0 : 1 + m.place("c.code"));
+        }
+        for (int handler : new int[] {2, 3}) {
+            Maker m = new Maker(52).open(0x21).u2(0, 2).member("a", 8, "a", "()V").u2(1).code("c", 0, 0, 0, 0, 0, 0, RETURN);
+            m.member("b", 8, "b", "()V").u2(1).attribute("d", "Code", 12 + 3 + 8).u2(0, 0).u4(3).u1(0, 0, RETURN).u2(1);
+            m.mark("row").u2(0, 3, handler, 0).u2(0, 0);
+            CHECK.judged("the handler at " + handler, m.file(), handler == 2 ? 0 : 28, m.place("row"));
+        }
     }
 
     private static void firstAim() {
