@@ -276,6 +276,7 @@ public final class CompiledTest {
         noContract("a bridge", 13, "class A extends Thread { public A clone() { return null; } }");
         noContract("a volatile field", 13, "class A { volatile int a; }");
         noContract("a method of any number of arguments", 13, "class A { void go(int... a) { } }");
+        noContract("an INTERFACE with <clinit>", 13, "interface A { Object B = new Object(); }");
         noContract("an enum", 13, "enum A { B }");
         noContract("an annotation", 13, "@interface A { }");
         noContract("types with parameters", 19, "class A { java.util.List<Integer> a; }");
